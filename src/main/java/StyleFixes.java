@@ -44,18 +44,18 @@ public final class StyleFixes {
     private static final int STOPPED = 2;
     private static final int WENT_ON = 3;
 
-    private final byte[] tape = new byte[TAPE_LIMIT];
+    private final byte[] tape;
     private int tapeLength;
-    private Rules draft = new Rules();
-    private final RuleReader reader = new RuleReader(tape, draft);
-    private final State now = new State(new Rules());
-    private final History history = new History(now.rules);
-    private final State kept = new State(now.rules);
-    private final History keptHistory = new History(now.rules);
+    private Rules draft;
+    private final RuleReader reader;
+    private final State now;
+    private final History history;
+    private final State kept;
+    private final History keptHistory;
     private final Page sparePage = new Page();
-    private final Finder finder = new Finder(now);
+    private final Finder finder;
     private boolean looked;
-    private final Finder trial = new Finder(now);
+    private final Finder trial;
     private final Journey journey = new Journey();
     private boolean travelled;
     private int remedy;
@@ -64,6 +64,19 @@ public final class StyleFixes {
     private final int[] single = new int[1];
 
     public StyleFixes() {
+        byte[] empty = new byte[TAPE_LIMIT];
+        Rules blank = new Rules();
+        Rules none = new Rules();
+        State first = new State(none);
+        tape = empty;
+        draft = blank;
+        reader = new RuleReader(empty, blank);
+        now = first;
+        history = new History(none);
+        kept = new State(none);
+        keptHistory = new History(none);
+        finder = new Finder(first);
+        trial = new Finder(first);
     }
 
     // ---- what is told ----
@@ -204,7 +217,7 @@ public final class StyleFixes {
 
     public int apply(int i) {
         Finder found = found();
-        if (!found.has(i) || (found.marks[i] & SILENT) != 0) {
+        if (!found.has(i) || found.isMarked(i, SILENT)) {
             return NONE;
         }
         single[0] = i;
@@ -1262,7 +1275,7 @@ public final class StyleFixes {
         private final int[] after = new int[FINDING_LIMIT];
         final int[] size = new int[FINDING_LIMIT];
         final int[] value = new int[FINDING_LIMIT];
-        final int[] marks = new int[FINDING_LIMIT];
+        private final int[] marks = new int[FINDING_LIMIT];
         // the first FINDING from each TOKEN on or behind it
         private final int[] firstFrom = new int[TEXT_LIMIT + 1];
         // by TOKEN and how many may be taken yet: the best that can come from there on
