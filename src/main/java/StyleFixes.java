@@ -208,10 +208,8 @@ public final class StyleFixes {
 
     public int insist() {
         int count = now.yieldCount;
-        if (count > 0) {
-            keepStep();
-            now.yieldCount = 0;
-        }
+        keepStep();
+        now.yieldCount = 0;
         return count;
     }
 
@@ -234,11 +232,10 @@ public final class StyleFixes {
         if (n < 1 || n > ROUND_LIMIT) {
             return NONE;
         }
+        // one STEP for all that the call makes, be it no ROUND at all
+        history.keep(now);
         int made = 0;
         while (made < n && found().canBeMade()) {
-            if (made == 0) {
-                history.keep(now);
-            }
             makeRound();
             made++;
         }

@@ -477,7 +477,8 @@ public final class StyleFixesAgainstModel {
 
     int insist() {
       int n = w.yields.size();
-      if (n > 0) { step(); w.yields.clear(); }
+      step();
+      w.yields.clear();
       return n;
     }
 
@@ -493,10 +494,9 @@ public final class StyleFixesAgainstModel {
 
     int make(int n) {
       if (n < 1 || n > 30) return -1;
-      World was = w;
+      step();
       int made = 0;
       for (World next = w.round(); made < n && next != null; next = w.round()) { w = next; made++; }
-      if (made > 0) { World is = w; w = was; step(); w = is; }
       return made;
     }
 

@@ -588,7 +588,6 @@ public final class StyleFixesPromises {
     x.hear(3);
     x.put(0, 0);
     x.yields(0, 0);
-    x.insist();
     x.apply(7);
     x.make(99);
     text(x, "\t");
@@ -598,12 +597,47 @@ public final class StyleFixesPromises {
     x.cure();
     due(x.steps(), 2, "what is refused, or asked, is no step");
     x.make(1);
-    due(x.make(1), 0, "make(1)");
-    due(x.steps(), 3, "no rounds, no step");
+    due(x.steps(), 3, "rounds made are a step");
     x.most(20);
     x.measure(0);
     x.put(0, 'b');
     due(x.steps(), 6, "what is told anew is a step");
+  }
+
+  private static void stepsThatChangeNothing() {
+    promise(14);
+    StyleFixes x = new StyleFixes();
+    due(x.insist(), 0, "insist() of none");
+    due(x.steps(), 1, "insist() of none is a step");
+    due(x.undo(), 0, "undo() of it");
+    due(x.undo(), -1, "undo() of none");
+
+    promise(16);
+    due(x.make(0), -1, "make(0)");
+    due(x.make(31), -1, "make(31)");
+    due(x.steps(), 0, "make that is refused is no step");
+    due(x.make(30), 0, "make(30) without findings");
+    due(x.steps(), 1, "make of no round is a step");
+    x = desk("a b", "5:'a'>'c'");
+    due(x.make(9), 1, "make(9)");
+    due(x.make(9), 0, "make(9) of a still text");
+    due(x.steps(), 4, "steps()");
+    due(x.undo(), 3, "undo() of no round");
+    due(read(x), "c b", "the round made ahead stays");
+    due(x.is(9), 1, "is(9)");
+    due(x.undo(), 2, "undo() of the round");
+    due(read(x), "a b", "the text");
+    x = desk("x".repeat(101), "5:wa>wawa");
+    due(x.make(1), 0, "make(1) when it has stopped");
+    due(x.steps(), 3, "make of no round is a step");
+
+    promise(17);
+    x.on(0, false);
+    for (int i = 0; i < 20; i++) x.make(1);
+    due(x.steps(), 20, "steps()");
+    for (int i = 0; i < 20; i++) x.undo();
+    due(x.is(3), 0, "makes of no round drive older steps out");
+    due(x.undo(), -1, "undo() of none");
   }
 
   // ---- promises 18 to 40: what is asked ----
@@ -1176,6 +1210,7 @@ public final class StyleFixesPromises {
     roundsMade();
     stepsTakenBack();
     stepsOneByOne();
+    stepsThatChangeNothing();
     counts();
     bytesAndTokens();
     ofRules();
