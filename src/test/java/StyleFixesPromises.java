@@ -4,92 +4,9 @@ import java.lang.reflect.Method;
 import java.lang.reflect.Modifier;
 
 /** The promises of the document one by one: ordinary inputs, the edges that it names, wrong inputs. */
-public final class StyleFixesPromises {
-  private static final int MIN = Integer.MIN_VALUE;
-  private static final int MAX = Integer.MAX_VALUE;
-  private static int wrong = 0;
-  private static String part = "";
-
+public final class StyleFixesPromises extends Checks {
   private static void promise(int number) { part = "promise " + number; }
   private static void terms(String what) { part = "terms, " + what; }
-
-  private static void due(long got, long want, String call) {
-    if (got != want) { wrong++; System.out.println(part + ": " + call + " answered " + got + ", due is " + want); }
-  }
-
-  private static void due(boolean got, boolean want, String call) { due(got ? 1 : 0, want ? 1 : 0, call); }
-
-  private static void due(String got, String want, String call) {
-    if (!got.equals(want)) { wrong++; System.out.println(part + ": " + call + " answered [" + got + "], due is [" + want + "]"); }
-  }
-
-  // ---- ways to tell and read more than one byte ----
-
-  private static int[] words(String s, int from) {
-    int[] v = new int[5];
-    for (int k = 0; k < 20; k++) v[k / 4] = v[k / 4] << 8 | (from + k < s.length() ? s.charAt(from + k) : 0);
-    return v;
-  }
-
-  private static void tape(StyleFixes x, String s) {
-    x.end(0);
-    for (int i = 0; i < s.length(); i += 20) { int[] v = words(s, i); x.feed(v[0], v[1], v[2], v[3], v[4]); }
-    x.end(s.length());
-  }
-
-  private static int text(StyleFixes x, String s) { tape(x, s); return x.text(); }
-  private static int rules(StyleFixes x, String s) { tape(x, s); return x.rules(); }
-
-  private static StyleFixes desk(String text, String rules) {
-    StyleFixes x = new StyleFixes();
-    if (text(x, text) != text.length()) { wrong++; System.out.println(part + ": a text was not taken: " + text); }
-    if (rules(x, rules) < 0) { wrong++; System.out.println(part + ": rules were not taken: " + rules); }
-    return x;
-  }
-
-  private static String read(StyleFixes x) {
-    StringBuilder b = new StringBuilder();
-    for (int i = 0; i < x.is(0); i++) b.append((char) x.at(i));
-    return b.toString();
-  }
-
-  private static String later(StyleFixes x, int n) {
-    StringBuilder b = new StringBuilder();
-    for (int i = 0; x.later(n, i) != -1; i++) b.append((char) x.later(n, i));
-    return b.toString();
-  }
-
-  private static String fresh(StyleFixes x, int f) {
-    StringBuilder b = new StringBuilder();
-    for (int k = 0; k < x.finding(f, 3); k++) b.append((char) x.fresh(f, k));
-    return b.toString();
-  }
-
-  private static String set(StyleFixes x) {
-    StringBuilder b = new StringBuilder();
-    for (int i = 0; i < x.set(-1); i++) b.append(i == 0 ? "" : " ").append(x.set(i));
-    return b.toString();
-  }
-
-  private static String paints(StyleFixes x) {
-    StringBuilder b = new StringBuilder();
-    for (int i = 0; i < x.is(0); i++) b.append(x.paint(i) < 0 ? "." : "" + x.paint(i));
-    return b.toString();
-  }
-
-  private static void faulty(String rules, int kind, int place) {
-    StyleFixes x = new StyleFixes();
-    due(rules(x, rules), -1, "rules() of " + rules);
-    due(x.fault(0), kind, "fault(0) of " + rules);
-    due(x.fault(1), place, "fault(1) of " + rules);
-  }
-
-  private static void taken(String rules, int count) {
-    StyleFixes x = new StyleFixes();
-    due(rules(x, rules), count, "rules() of " + rules);
-    due(x.fault(0), 0, "fault(0) of " + rules);
-    due(x.fault(1), -1, "fault(1) of " + rules);
-  }
 
   // ---- the face ----
 
@@ -1176,7 +1093,8 @@ public final class StyleFixesPromises {
     StyleFixes x = desk("a 1 ".repeat(50), "5:na>+na;3:wa_na>na' 'wa;2:na_wa>wa' 'na");
     tape(x, "7:na>-na;1:wa>wa");
     long before = threads.getCurrentThreadAllocatedBytes();
-    for (int i = 0; i < 500; i++) {
+    // an object is used for 512 calls at most
+    for (int i = 0; i < 58; i++) {
       x.make(2);
       x.cure();
       x.finding(3, 6);
@@ -1225,7 +1143,6 @@ public final class StyleFixesPromises {
     imageAndBack();
     yieldedFindings();
     manyCallsAndObjects();
-    System.out.println(wrong == 0 ? "all promises hold" : wrong + " answers are not as due");
-    if (wrong != 0) System.exit(1);
+    ended("all promises hold");
   }
 }
